@@ -203,9 +203,49 @@ public final class RandomRunsTest {
         }
     }
 
+    /** Light and heavy THINGS at near and far STALLS on both sides, some alike. */
+    private static void shoppingRun() throws ReflectiveOperationException {
+        EvenBags x = new EvenBags();
+        PlainBags y = new PlainBags();
+        int things = between(1, 7);
+        for (int t = 0; t < things; t++) {
+            both(x, y, "thing", 0, draw(2) == 0 ? between(1, 3) : between(1, 99));
+            both(x, y, "set", t, 3, draw(3) == 0 ? 50 + between(-2, 2) : between(0, 100));
+        }
+        for (int i = -1; i < things; i++) {
+            both(x, y, "buying", i);
+        }
+    }
+
+    /** The same questions over and over, with a change now and then: none may be answered as it was ahead of it. */
+    private static void nosyRun() throws ReflectiveOperationException {
+        EvenBags x = new EvenBags();
+        PlainBags y = new PlainBags();
+        typeBoth(x, y, MARKETS[draw(MARKETS.length)]);
+        both(x, y, "sheet", 0, 2, 5);
+        List<Method> face = face();
+        for (int k = 0; k < 60; k++) {
+            Method m = face.get(draw(face.size()));
+            if (!m.getName().equals("thing") && !m.getName().equals("type") && !m.getName().equals("market")) {
+                both(x, y, m.getName(), arguments(m.getName(), m.getParameterTypes()));
+            }
+            both(x, y, "moved", draw(2), 20, -1);
+            both(x, y, "pulled", 0, 2, 0, 0);
+            both(x, y, "best", 0);
+            both(x, y, "evenest", 0, 1);
+            both(x, y, "buying", 0);
+        }
+    }
+
     public static void main(String[] args) throws ReflectiveOperationException {
         for (int k = 0; k < 1500 && Check.wrong() <= 20; k++) {
             run(300, 2 + draw(4));
+        }
+        for (int k = 0; k < 600 && Check.wrong() <= 20; k++) {
+            shoppingRun();
+        }
+        for (int k = 0; k < 200 && Check.wrong() <= 20; k++) {
+            nosyRun();
         }
         for (int k = 0; k < 6 && Check.wrong() <= 20; k++) {
             fullRun(draw(10));
