@@ -873,12 +873,10 @@ public final class EvenBags {
             super(market);
         }
 
-        @Override
         void begin() {
             any = false;
         }
 
-        @Override
         boolean isHopeless(int t) {
             worstSeen = 0;
             wholeSeen = 0;
@@ -890,7 +888,6 @@ public final class EvenBags {
             return any && (worstSeen > worst || worstSeen == worst && wholeSeen >= whole);
         }
 
-        @Override
         void reach() {
             any = true;
             worst = worstSeen;
@@ -918,12 +915,10 @@ public final class EvenBags {
             limit = newLimit;
         }
 
-        @Override
         void begin() {
             any = false;
         }
 
-        @Override
         boolean isHopeless(int t) {
             movedSeen = 0;
             for (int u = 0; u < t; u++) {
@@ -940,7 +935,6 @@ public final class EvenBags {
             return false;
         }
 
-        @Override
         void reach() {
             any = true;
             fewest = movedSeen;
@@ -964,13 +958,11 @@ public final class EvenBags {
             told[stretch] = off;
         }
 
-        @Override
         void begin() {
             ways = 0;
             sure = 0;
         }
 
-        @Override
         boolean isHopeless(int t) {
             for (int s = 0; s < market.stretches; s++) {
                 if (told[s] < leastOff(t, s) || told[s] > mostOff(t, s)) {
@@ -980,7 +972,6 @@ public final class EvenBags {
             return false;
         }
 
-        @Override
         void reach() {
             ways++;
             if (ways == 1) {
