@@ -840,16 +840,16 @@ public final class EvenBags {
             return true;
         }
 
-        private int offSoFar(int stretch) {
-            return market.offBetween(loads[stretch * BAG_COUNT + LEFT], loads[stretch * BAG_COUNT + RIGHT]);
-        }
-
+        /** OFF, if all THINGS from t on were LEFT. */
         int mostOff(int t, int stretch) {
-            return offSoFar(stretch) + loadAhead(t, stretch) * market.strength[RIGHT];
+            int at = stretch * BAG_COUNT;
+            return market.offBetween(loads[at + LEFT] + loadAhead(t, stretch), loads[at + RIGHT]);
         }
 
+        /** OFF, if all THINGS from t on were RIGHT. */
         int leastOff(int t, int stretch) {
-            return offSoFar(stretch) - loadAhead(t, stretch) * market.strength[LEFT];
+            int at = stretch * BAG_COUNT;
+            return market.offBetween(loads[at + LEFT], loads[at + RIGHT] + loadAhead(t, stretch));
         }
 
         /** No PACKING that begins as the row's first t THINGS has less OFF, without its sign. */

@@ -2,22 +2,39 @@
 final class Check {
     private static int asked = 0;
     private static int wrong = 0;
+    private static String about = "";
 
     private Check() {
+    }
+
+    /** What the answers from here on are about. */
+    static void about(String words) {
+        about = words + ": ";
     }
 
     static void due(String call, long got, long want) {
         asked++;
         if (got != want) {
-            wrong++;
-            if (wrong <= 40) {
-                System.out.println(call + " answered " + got + ", due is " + want);
-            }
+            fault(call + " answered " + got + ", due is " + want);
         }
     }
 
     static void due(String call, boolean fine) {
         due(call, fine ? 1 : 0, 1);
+    }
+
+    static void same(String call, String got, String want) {
+        asked++;
+        if (!got.equals(want)) {
+            fault(call + "\n    is  " + got + "\n    due " + want);
+        }
+    }
+
+    private static void fault(String words) {
+        wrong++;
+        if (wrong <= 40) {
+            System.out.println(about + words);
+        }
     }
 
     /** Types a text on THE TAPE and takes it as a MARKET. */
