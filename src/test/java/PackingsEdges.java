@@ -534,8 +534,10 @@ final class PackingsEdges {
         Check.due("packed", Edge.packing(x), 101010101);
     }
 
+    /** The first questions are the last ones too, so that a change is between two like ones. */
     private static String asked(EvenBags x) {
         StringBuilder s = new StringBuilder();
+        s.append(x.moved(1, 61, -1)).append(' ').append(x.pulled(2, 0, 0, 0));
         for (int t = -2; t < 7; t++) {
             s.append(' ').append(x.best(t));
             s.append(' ').append(x.buying(t));
@@ -568,16 +570,25 @@ final class PackingsEdges {
             Call.of("item", 1, 2, 0, 3), Call.of("copy", 1, 1, 1, 0, 8), Call.of("sheet", 1, 2, 8),
             Call.of("sheet", 2, 3, 8), Call.of("drop", 1)};
         for (Call change : changes) {
-            EvenBags asked = Edge.SOME.make();
-            String ahead = asked(asked);
-            Check.same("asked twice", asked(asked), ahead);
-            change.on(asked);
-            EvenBags fresh = Edge.SOME.make();
-            change.on(fresh);
-            String behind = asked(fresh);
-            Check.same(change.toString(), asked(asked), behind);
-            Check.due(change + " makes a difference", !behind.equals(ahead));
+            String ahead = asked(Edge.SOME.make());
+            Check.due(change + " makes a difference", !changedBehind(false, change).equals(ahead));
+            Check.same(change.toString(), changedBehind(true, change), changedBehind(false, change));
+            for (Call another : changes) {
+                Check.same(change + ", " + another, changedBehind(true, change, another), changedBehind(false, change, another));
+            }
         }
+    }
+
+    /** What is asked behind these changes, perhaps with the same questions ahead of them. */
+    private static String changedBehind(boolean askedAhead, Call... changes) {
+        EvenBags x = Edge.SOME.make();
+        if (askedAhead) {
+            asked(x);
+        }
+        for (Call change : changes) {
+            change.on(x);
+        }
+        return asked(x);
     }
 
     static void all() {
