@@ -277,7 +277,7 @@ public final class EvenBags {
         return 1;
     }
 
-    // ---- 3 sheets
+    // ---- 3 sheets 0 .. 3: nothing (at first), or a row of a LANE: 0 bytes, 1 shorts, 2 ints, 3 longs, of 0 to 16 items
 
     public int tray(int sheet, int lane, int i, int limit, int what) {
         if (!within(limit, 0, 9999) || !within(what, 0, 2)) {
@@ -748,12 +748,25 @@ public final class EvenBags {
             return false;
         }
 
-        /** Goes at most as deep as there are BARS, for on a BAR only those of lesser numbers hang. */
-        private int endWeight(int end) {
-            if (end < MOST_THINGS) {
-                return weight[end];
+        /** All WEIGHTS at an end of a BAR: of a THING, or of all that hang on a BAR. */
+        int endWeight(int end) {
+            int hanging = 1 << end;
+            // on a BAR only those of lesser numbers hang, so each is in the set before its turn comes
+            for (int b = bars - 1; b >= 0; b--) {
+                if ((hanging >> (MOST_THINGS + b) & 1) == 1) {
+                    hanging |= 1 << barFirst[b] | 1 << barOther[b];
+                }
             }
-            return endWeight(barFirst[end - MOST_THINGS]) + endWeight(barOther[end - MOST_THINGS]);
+            return weightOf(hanging);
+        }
+
+        /** All WEIGHTS of a set of THINGS; bits beyond them do not matter. */
+        int weightOf(int set) {
+            int sum = 0;
+            for (int t = 0; t < things; t++) {
+                sum += (set >> t & 1) == 1 ? weight[t] : 0;
+            }
+            return sum;
         }
     }
 
@@ -996,6 +1009,9 @@ public final class EvenBags {
 
     /** BUYING, by what is still to come: that depends on which THINGS are bought and on the last STALL alone. */
     private static final class Errand {
+        // ten ways of 100 at most, with ten THINGS of 99 at most
+        static final int ABOVE_ALL_COSTS = 1000000;
+
         int least = 0;
         final int[] order = new int[MOST_THINGS];
         private final Market market;
@@ -1023,7 +1039,7 @@ public final class EvenBags {
         }
 
         private void weigh(int bought, boolean all) {
-            int carried = carriedWith(bought);
+            int carried = market.weightOf(bought);
             for (int last = 0; last < market.things; last++) {
                 if ((bought >> last & 1) == 1) {
                     toCome[at(bought, last)] = all
@@ -1053,7 +1069,7 @@ public final class EvenBags {
         /** The first of the THINGS not yet bought by which the least is still to come. */
         private int nextBehind(int bought, int last, int carried) {
             int first = 0;
-            int leastCost = Integer.MAX_VALUE;
+            int leastCost = ABOVE_ALL_COSTS;
             for (int next = 0; next < market.things; next++) {
                 if ((bought >> next & 1) == 0) {
                     int cost = costBy(bought, last, carried, next);
@@ -1069,14 +1085,6 @@ public final class EvenBags {
         private int costBy(int bought, int last, int carried, int next) {
             int from = last < 0 ? 0 : market.stall[last];
             return carried * Math.abs(market.stall[next] - from) + toCome[at(bought | 1 << next, next)];
-        }
-
-        private int carriedWith(int bought) {
-            int sum = 0;
-            for (int t = 0; t < market.things; t++) {
-                sum += (bought >> t & 1) == 1 ? market.weight[t] : 0;
-            }
-            return sum;
         }
 
         private static int at(int bought, int last) {

@@ -5,7 +5,9 @@ import java.lang.reflect.Method;
 import java.lang.reflect.Modifier;
 import java.nio.file.Files;
 import java.nio.file.Path;
+import java.util.ArrayList;
 import java.util.Arrays;
+import java.util.List;
 import java.util.Set;
 import java.util.TreeSet;
 import java.util.regex.Matcher;
@@ -82,6 +84,35 @@ public final class FaceTest {
         }
     }
 
+    /** Of the library only what rule 4 lists and the class uses; its constants (Integer.MAX_VALUE) are not listed. */
+    private static void library() throws IOException {
+        Set<String> listed = new TreeSet<>(Arrays.asList("Math.abs(", "Math.max(", "Math.min(", "System.arraycopy(", "KINDS.indexOf("));
+        String code = Files.readString(Path.of("src/main/java/EvenBags.java")).replaceAll("/\\*(?s:.*?)\\*/|//.*", "");
+        Matcher used = Pattern.compile("\\b[A-Z]\\w*\\s*\\.\\s*\\w+\\(?").matcher(code);
+        while (used.find()) {
+            Check.due(used.group() + " is listed by rule 4", listed.contains(used.group()));
+        }
+        Set<String> own = new TreeSet<>();
+        for (Class<?> c : EvenBags.class.getDeclaredClasses()) {
+            own.add(c.getSimpleName());
+        }
+        Matcher made = Pattern.compile("\\bnew (\\w+)").matcher(code);
+        while (made.find()) {
+            String type = made.group(1);
+            Check.due("new " + type, own.contains(type) || type.matches("int|long|char"));
+        }
+    }
+
+    private static void parameters() {
+        List<Class<?>> all = new ArrayList<>(Arrays.asList(EvenBags.class.getDeclaredClasses()));
+        all.add(EvenBags.class);
+        for (Class<?> c : all) {
+            for (Method m : c.getDeclaredMethods()) {
+                Check.due(m + " takes at most seven parameters", m.getParameterCount() <= 7);
+            }
+        }
+    }
+
     private static void words() throws IOException {
         String source = Files.readString(Path.of("src/main/java/EvenBags.java"));
         String[] never = {"->", "::", "try", "catch", "throw", "finally", "synchronized", "assert", "import", "package", "double",
@@ -113,6 +144,8 @@ public final class FaceTest {
         methods();
         fields();
         classes();
+        parameters();
+        library();
         words();
         Check.end();
     }
